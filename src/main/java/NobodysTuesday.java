@@ -1084,12 +1084,11 @@ public final class NobodysTuesday {
             return set;
         }
 
+        /** Only just behind start, which ends the fog of a call before. */
         int comersInFog(int seed) {
             foggy = true;
             draws = seed;
-            int set = comers();
-            foggy = false;
-            return set;
+            return comers();
         }
 
         int comers() {
