@@ -265,6 +265,14 @@ public final class PromisesTest {
         due("its first line", x.club(8), 1);
         due("quota", x.count(1), 2);
         due("tape", x.count(7), 0);
+        // What stands on the tape behind the text is not read.
+        int[][] cuts = {{0, 0, -1}, {4, 2, 0}, {5, 2, 5}, {7, 2, 7}, {8, 2, 8}, {9, 0, -1}, {12, 2, 9}};
+        for (int[] cut : cuts) {
+            lay(x, "quota 12;dinnerdinner;");
+            x.club(cut[0]);
+            due("fault of its first " + cut[0] + " bytes", x.fault(0), cut[1]);
+            due("place in its first " + cut[0] + " bytes", x.fault(1), cut[2]);
+        }
         due("12 members", read(x, never(12)), 12);
         // A dinner told behind MEMBERS counts for all that is weighed by it.
         x = club("quota 1;dinner 1;member never cost 5;dinner 9;");
