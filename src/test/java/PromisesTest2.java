@@ -1,0 +1,9 @@
+public final class PromisesTest2 {
+    public static void main(String[] args) {
+        TextRows.all();
+        Rows.close();
+        if (!Rows.allRight()) {
+            System.exit(1);
+        }
+    }
+}
