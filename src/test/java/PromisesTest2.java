@@ -1,6 +1,7 @@
 public final class PromisesTest2 {
     public static void main(String[] args) {
         TextRows.all();
+        WeekRows.all();
         Rows.close();
         if (!Rows.allRight()) {
             System.exit(1);
