@@ -3,6 +3,8 @@ public final class PromisesTest2 {
         TextRows.all();
         WeekRows.all();
         RestRows.all();
+        OddsRows.all();
+        AheadRows.all();
         Rows.close();
         if (!Rows.allRight()) {
             System.exit(1);
