@@ -91,12 +91,13 @@ final class RestRows extends Rows {
             due("rests(" + set + ")", x.rests(set), true);
         }
 
-        says("REPLIES from a SET: again and again the first MEMBER with a GAIN above 0 does the other thing, till it is at REST"
-                + " (it may be after 4,096 at most; NONE: it is not).");
+        says("REPLIES from a SET: again and again the first MEMBER with a GAIN above 0 does the other thing, till it is at REST");
         x = club("quota 2;dinner 5;member never cost 9;member never;member never cost 6;");
         due("0 leaves, 1 comes, 2 leaves", x.replies(5, 0), 2);
         due("0 leaves, 1 comes, 2 leaves", x.replies(5, 1), 3);
-        // Who would lose leaves, the first who is wanted comes, six times.
+
+        says("(it may be after 4,096 at most; NONE: it is not).");
+        // Who would lose leaves, the first who is wanted comes, six times: no more can be found.
         x = club("quota 6;dinner 10;" + never(6) + "member never cost 99;".repeat(6));
         due("from the losers", x.replies(4032, 0), 63);
         due("from the losers", x.replies(4032, 1), 12);
@@ -138,8 +139,7 @@ final class RestRows extends Rows {
 
     private static void twoClubs() {
         says("TWO for a second club's quota and dinner: each MEMBER stays (0), COMES (1), or goes there"
-                + " (2, PAY as here, by its quota and dinner, his cost the same): a number: 0, 1, 2 of MEMBER m times 3 to the"
-                + " m-th, all together; at REST, if none has more PAY by another of the three; at most 8 MEMBERS.");
+                + " (2, PAY as here, by its quota and dinner, his cost the same):");
         NobodysTuesday x = club("quota 1;dinner 3;member never cost 1;member never cost 6;");
         // MEMBER 1 loses anywhere; 0 goes where there is more.
         due("how many", x.two(1, 5, -1), 1);
@@ -148,10 +148,20 @@ final class RestRows extends Rows {
         due("either", x.two(1, 3, -1), 2);
         due("either", x.two(1, 3, 0), 1);
         due("either", x.two(1, 3, 1), 2);
+
+        says("a number: 0, 1, 2 of MEMBER m times 3 to the m-th, all together;");
         NobodysTuesday both = club("quota 1;dinner 3;member never;member never cost 1;");
-        due("one here, one there", both.two(1, 3, -1), 2);
         due("one here, one there", both.two(1, 3, 0), 2 + 1 * 3);
         due("one here, one there", both.two(1, 3, 1), 1 + 2 * 3);
+        // The one who dines here, all others staying.
+        x = club("member never cost 1;".repeat(8));
+        due("one of 8", x.two(12, 0, -1), 8);
+        for (int m = 0, power = 1; m < 8; m++, power *= 3) {
+            due("MEMBER " + m, x.two(12, 0, m), power);
+        }
+
+        says("at REST, if none has more PAY by another of the three;");
+        due("one here, one there", both.two(1, 3, -1), 2);
         // Just quota there: two who would both lose the one by himself.
         x = club("quota 1;dinner 0;member never cost 2;member never cost 2;");
         due("nobody, or both there", x.two(2, 3, -1), 2);
@@ -159,19 +169,16 @@ final class RestRows extends Rows {
         due("both there", x.two(2, 3, 1), 2 + 2 * 3);
         due("by a dinner of no more than it costs, nobody", x.two(2, 1, -1), 1);
         due("whose GAIN is 0 goes or stays", x.two(2, 2, -1), 2);
+        // Without costs only those with nobody here are not at REST.
+        due("all but 256", club(never(8)).two(12, 0, -1), 6561 - 256);
+
+        says("at most 8 MEMBERS.");
         // All 8 there is the last number there is.
         x = club("quota 12;" + "member never cost 1;".repeat(8));
         due("nobody, or all there", x.two(8, 999, -1), 2);
         due("nobody", x.two(8, 999, 0), 0);
         due("all there", x.two(8, 999, 1), 6560);
-        // The one who dines here, all others staying.
-        x.quota(1);
-        due("one of 8", x.two(12, 0, -1), 8);
-        for (int m = 0, power = 1; m < 8; m++, power *= 3) {
-            due("MEMBER " + m, x.two(12, 0, m), power);
-        }
-        // Without costs only those with nobody here are not at REST.
-        due("all but 256", club(never(8)).two(12, 0, -1), 6561 - 256);
+        refused("two(8, 999, 0) of nine", STATE, has(never(9)), y -> y.two(8, 999, 0));
     }
 
     private static void bribesAndContracts() {
@@ -189,16 +196,26 @@ final class RestRows extends Rows {
         due("none of the others would", x.bribe(1), 0);
 
         says("CONTRACT: of SETS of just quota MEMBERS that by which, each of it being paid his cost if he COMES, the fewest coins"
-                + " are paid; of like ones the least; it is safe whatever others do.");
+                + " are paid;");
         x = club(FOUR);
         due("contract(0)", x.contract(0), 1 + 3);
         due("contract(1)", x.contract(1), 1 + 8);
+
+        says("of like ones the least;");
         x = club("quota 2;dinner 0;member never cost 1;member never cost 1;member never cost 1;");
         due("like ones", x.contract(0), 2);
         due("the least of them", x.contract(1), 3);
         x = club("quota 1;dinner 0;member never cost 999;member never cost 998;member never cost 998;");
         due("like ones", x.contract(0), 998);
         due("the least of them", x.contract(1), 2);
+
+        says("it is safe whatever others do.");
+        // So each has his cost, whatever the dinner would bring, and whoever comes.
+        for (int dinner : new int[] {0, 6, 999}) {
+            x = weeks("quota 2;dinner " + dinner + ";member always cost 5;member never cost 2;member learns cost 3;", 7);
+            due("contract(0) by dinner " + dinner, x.contract(0), 5);
+            due("contract(1) by dinner " + dinner, x.contract(1), 6);
+        }
     }
 
     // ---- promises 17 to 21
@@ -368,8 +385,7 @@ final class RestRows extends Rows {
             refused("turnsBy(" + tray + ", 2)", STATE, y -> y.turnsBy(tray, 2));
         }
 
-        says("IllegalArgumentException: it has not each MEMBER once, another what.");
-        anotherWhat("turnsBy(0)", 0, 1, (y, what) -> y.turnsBy(0, what));
+        says("IllegalArgumentException: it has not each MEMBER once,");
         long[][] orders = {{}, {0}, {0, 1}, {0, 1, 2, 2}, {0, 1, 2, 3}, {0, 1, 1}, {0, 0, 2}, {1, 2, 3}, {0, 1, 3}, {0, 1, -1},
                 {-1, 1, 2}, {0, 1, (1L << 32) + 2}, {0, 1, 34}, {0, 1, Long.MIN_VALUE}, {0, 1, Long.MAX_VALUE}};
         for (long[] order : orders) {
@@ -384,6 +400,10 @@ final class RestRows extends Rows {
             read(y, never(12));
             y.tray(0, 0, 60);
         }, y -> y.turnsBy(0, 0));
+
+        says("another what.");
+        anotherWhat("turnsBy(0)", 0, 1, (y, what) -> y.turnsBy(0, what));
+        anotherWhat("turnsBy(2)", 0, 1, (y, what) -> y.turnsBy(2, what));
     }
 
     private static void twos() {
@@ -406,15 +426,19 @@ final class RestRows extends Rows {
         due("two(12, 0, 6304) of eight", club(never(8)).two(12, 0, 6304) != NONE, true);
         due("two(12, 0, 6305) of eight", club(never(8)).two(12, 0, 6305), NONE);
 
-        says("IllegalArgumentException: quota isn't 1 to 12, dinner 0 to 999;");
+        says("IllegalArgumentException: quota isn't 1 to 12,");
+        notThrown("two(1, 0, 0)", made(Rows::rich), y -> y.two(1, 0, 0));
+        notThrown("two(12, 999, 0)", made(Rows::rich), y -> y.two(12, 999, 0));
         for (int quota : new int[] {0, -1, 13, LEAST, MOST}) {
             refused("two(" + quota + ", 1, 0)", ARGUMENT, y -> y.two(quota, 1, 0));
         }
+
+        says("dinner 0 to 999;");
         for (int dinner : new int[] {-1, 1000, LEAST, MOST}) {
             refused("two(1, " + dinner + ", 0)", ARGUMENT, y -> y.two(1, dinner, 0));
         }
-        notThrown("two(1, 0, 0)", made(Rows::rich), y -> y.two(1, 0, 0));
-        notThrown("two(12, 999, 0)", made(Rows::rich), y -> y.two(12, 999, 0));
+        notThrown("two(1, 0, 0)", made(Rows::rich), y -> y.two(12, 0, 0));
+        notThrown("two(12, 999, 0)", made(Rows::rich), y -> y.two(1, 999, 0));
         // This one is told first.
         refused("two(0, 1, 0) of nine", ARGUMENT, has(never(9)), y -> y.two(0, 1, 0));
         refused("two(13, 1, 0) of nine", ARGUMENT, has(never(9)), y -> y.two(13, 1, 0));

@@ -59,7 +59,7 @@ final class TextRows extends Rows {
         says("The constants: `NONE = -1`: There is none.");
         due("NONE", NobodysTuesday.NONE, -1);
 
-        says("THE CLUB is a TEXT of at most 700 bytes (without one: quota 1, dinner 10, no MEMBERS):");
+        says("THE CLUB is a TEXT of at most 700 bytes");
         String whole = "quota 5;" + " ".repeat(684) + "quota 4;";
         x = new NobodysTuesday();
         due("700 bytes", lay(x, whole), 700);
@@ -67,6 +67,8 @@ final class TextRows extends Rows {
         due("its quota", x.count(1), 4);
         refused("a text of 701 bytes", ARGUMENT, y -> lay(y, whole), y -> y.club(701));
         fault(" ".repeat(699) + "q", 2, 699);
+
+        says("(without one: quota 1, dinner 10, no MEMBERS):");
         x = new NobodysTuesday();
         dues("count without a text", x::count, 1, 1, 10, 0, 0);
         due("a text of 0 bytes", x.club(0), 0);
@@ -138,9 +140,13 @@ final class TextRows extends Rows {
     }
 
     private static void bounds() {
-        says("quota 1 to 12, dinner 0 to 999, fog 0 to 100 (0 without);");
+        says("quota 1 to 12,");
         bound("quota", 1, 12);
+
+        says("dinner 0 to 999,");
         bound("dinner", 0, 999);
+
+        says("fog 0 to 100 (0 without);");
         bound("fog", 0, 100);
         NobodysTuesday x = club("quota 12;dinner 999;fog 100;");
         dues("count", x::count, 1, 12, 999, 100);
@@ -170,22 +176,28 @@ final class TextRows extends Rows {
         }
         due("pay(4)", x.pay(4), 10 - 999);
 
-        says("under, over, hats, sees: 0 to 12; every: 1 to 12; think: 0 to 6.");
+        says("under, over, hats, sees: 0 to 12;");
         bound("member under", 0, 12);
         bound("member over", 0, 12);
         bound("member hats", 0, 12);
         bound("member sees", 0, 12);
-        bound("member every", 1, 12);
-        bound("member think", 0, 6);
         fault("member hats 13 cost 1;", 3, 12);
 
-        says("MEMBERS are numbered from 0 on as they come, 12 at most.");
+        says("every: 1 to 12;");
+        bound("member every", 1, 12);
+
+        says("think: 0 to 6.");
+        bound("member think", 0, 6);
+
+        says("MEMBERS are numbered from 0 on as they come,");
         x = club("member under 0;quota 2;member under 1;member under 2;member under 3;member under 4;member under 5;"
                 + "dinner 2;member under 6;member under 7;member under 8;member under 9;member under 10;member under 11;");
         due("MEMBERS", x.count(4), 12);
         for (int m = 0; m < 12; m++) {
             due("N of " + m, x.member(m, 1), m);
         }
+
+        says("12 at most.");
         taken(never(11), 11);
         taken(never(12), 12);
         fault(never(13), 4, 156);
@@ -205,15 +217,10 @@ final class TextRows extends Rows {
     }
 
     private static void tokens() {
-        says("TOKENS, as long as they go, between them blanks (10, 32): words (small letters), N (1 to 3 digits), the sign ;.");
+        says("TOKENS, as long as they go, between them blanks (10, 32):");
         taken("quota3;member under12cost999umbrella;fog100;", 3);
         taken("\n \nquota\n012\n;\n dinner  007 ; \n", 2);
         taken(" \n \n", 0);
-        taken("quota 7;", 1);
-        taken("quota 07;", 1);
-        taken("quota 007;", 1);
-        fault("quota 0007;", 1, 6);
-        taken("dinner 10;", 1);
         fault("quotas 1;", 2, 0);
         fault("quotafog 1;", 2, 0);
         fault("quo ta 1;", 2, 0);
@@ -222,6 +229,17 @@ final class TextRows extends Rows {
         fault("member always costs 1;", 2, 14);
         fault("members always;", 2, 0);
         fault("dinner 1 2;", 2, 9);
+
+        says("N (1 to 3 digits),");
+        taken("quota 7;", 1);
+        taken("quota 07;", 1);
+        taken("quota 007;", 1);
+        fault("quota 0007;", 1, 6);
+        fault("quota ;", 2, 6);
+        taken("dinner 999;", 1);
+        fault("dinner 1000;", 1, 7);
+
+        says("words (small letters), N (1 to 3 digits), the sign ;.");
         for (int sign = 0; sign < 256; sign++) {
             String one = String.valueOf((char) sign);
             boolean begins = isDigit(sign) || isLetter(sign) || sign == ';';
@@ -326,15 +344,20 @@ final class TextRows extends Rows {
 
     private static void aNewObject() {
         promise(1);
-        says("A CLUB without a text; TRAYS are MISSING; an empty tape.");
+        says("A CLUB without a text;");
         NobodysTuesday x = new NobodysTuesday();
-        dues("count", x::count, 0, 0, 1, 10, 0, 0, 0, 0, 0);
+        dues("count", x::count, 0, 0, 1, 10, 0, 0, 0, 0);
         due("next", x.next(), 0);
+
+        says("TRAYS are MISSING;");
         for (int i = 0; i < 4; i++) {
             int tray = i;
             refused("pour(" + i + ")", STATE, NEW, y -> y.pour(tray));
             refused("judge(" + i + ", 0)", STATE, NEW, y -> y.judge(tray, 0));
         }
+
+        says("an empty tape.");
+        due("count(7)", x.count(7), 0);
         due("club(0)", x.club(0), 0);
         refused("club(1)", ARGUMENT, NEW, y -> y.club(1));
         // What one object does no other one has.
@@ -345,13 +368,8 @@ final class TextRows extends Rows {
 
     private static void feeding() {
         promise(2);
-        says("Twenty bytes come behind those on the tape, the highest of each int first: how many it has;");
+        says("Twenty bytes come behind those on the tape, the highest of each int first:");
         NobodysTuesday x = new NobodysTuesday();
-        due("feed", x.feed(0, 0, 0, 0, 0), 20);
-        for (int i = 2; i <= 35; i++) {
-            due("feed " + i, x.feed(-1, i, LEAST, MOST, 0), 20 * i);
-        }
-        x = new NobodysTuesday();
         // "quota 12;fog 33;    "
         due("feed", x.feed(0x71756f74, 0x61203132, 0x3b666f67, 0x2033333b, 0x20202020), 20);
         // "dinner 77;quota 11;;"
@@ -364,6 +382,14 @@ final class TextRows extends Rows {
         x.feed(0x20202020, 0x20202020, 0x20202020, 0x20202020, 0x2020203b);
         due("club(20)", x.club(20), -12);
         due("the sign ; comes last", x.fault(1), 19);
+
+        says("how many it has;");
+        x = new NobodysTuesday();
+        due("feed", x.feed(0, 0, 0, 0, 0), 20);
+        for (int i = 2; i <= 35; i++) {
+            due("feed " + i, x.feed(-1, i, LEAST, MOST, 0), 20 * i);
+            due("count(7)", x.count(7), 20 * i);
+        }
 
         says("NONE, and nothing changes, if there would be more than 700.");
         Deed full = y -> {
@@ -394,7 +420,7 @@ final class TextRows extends Rows {
 
     private static void reading() {
         promise(3);
-        says("The first n bytes of the tape (which is empty then) are THE CLUB, WEEK 0 (IMAGES, TRAYS stay): how many LINES;");
+        says("The first n bytes of the tape (which is empty then) are THE CLUB,");
         NobodysTuesday x = new NobodysTuesday();
         due("feed", lay(x, "quota 2;quota 3;"), 20);
         due("its first line", x.club(8), 1);
@@ -412,8 +438,16 @@ final class TextRows extends Rows {
             due("place in its first " + cut[0] + " bytes", x.fault(1), cut[2]);
             due("the tape", x.count(7), 0);
         }
-        weeksAreGone();
         manyClubs();
+
+        says("WEEK 0 (IMAGES, TRAYS stay):");
+        weeksAreGone();
+
+        says("how many LINES;");
+        due("no LINE", read(x, "  "), 0);
+        due("one LINE", read(x, "fog 1;"), 1);
+        due("140 LINES", read(x, "fog1;".repeat(140)), 140);
+        due("count(0)", x.count(0), 140);
 
         says("-10 less the FAULT (all else stays).");
         allStays("fog 9;quota 13;", -13);
@@ -427,16 +461,20 @@ final class TextRows extends Rows {
         due("the tape", x.count(7), 0);
         due("feed", x.feed(0, 0, 0, 0, 0), 20);
 
-        says("IllegalArgumentException: n is below 0 or above what it has.");
-        int has = made(Rows::rich).count(7);
-        due("what it has", has, 60);
-        for (int n : new int[] {-1, LEAST, has + 1, 700, 701, MOST}) {
+        says("IllegalArgumentException: n is below 0");
+        due("club(0)", made(Rows::rich).club(0), 0);
+        for (int n : new int[] {-1, -2, LEAST}) {
+            refused("club(" + n + ")", ARGUMENT, y -> y.club(n));
+            refused("club(" + n + ") of an empty tape", ARGUMENT, has("quota 2;"), y -> y.club(n));
+        }
+
+        says("or above what it has.");
+        due("what it has", made(Rows::rich).count(7), 60);
+        due("club(60)", made(Rows::rich).club(60), 3);
+        for (int n : new int[] {61, 80, 700, 701, MOST}) {
             refused("club(" + n + ")", ARGUMENT, y -> y.club(n));
         }
-        refused("club(1)", ARGUMENT, has("quota 2;"), y -> y.club(1));
-        refused("club(-1)", ARGUMENT, has("quota 2;"), y -> y.club(-1));
-        due("club(has)", made(Rows::rich).club(has), 3);
-        due("club(0)", made(Rows::rich).club(0), 0);
+        refused("club(1) of an empty tape", ARGUMENT, has("quota 2;"), y -> y.club(1));
     }
 
     /** A text with a FAULT leaves all else as it was; one without does not (or this would tell nothing). */
@@ -502,11 +540,20 @@ final class TextRows extends Rows {
 
     private static void theFault() {
         promise(4);
-        says("Of the latest club() that threw nothing, what 0: the FAULT (0 without, and at first), 1: its place (NONE without).");
+        says("what 0: the FAULT (0 without, and at first), 1: its place (NONE without).");
         NobodysTuesday x = new NobodysTuesday();
         dues("fault at first", x::fault, 0, 0, NONE);
+        read(x, "quota 2;");
+        dues("fault of a club without", x::fault, 0, 0, NONE);
         read(x, "quota 13;");
         dues("fault", x::fault, 0, 3, 6);
+        read(x, ";");
+        dues("fault at place 0", x::fault, 0, 2, 0);
+        x.club(0);
+        dues("fault of an empty text", x::fault, 0, 0, NONE);
+
+        says("Of the latest club() that threw nothing,");
+        read(x, "quota 13;");
         answer(x, y -> y.club(5));
         answer(x, y -> y.club(-1));
         dues("fault behind a club() that threw", x::fault, 0, 3, 6);
@@ -518,10 +565,6 @@ final class TextRows extends Rows {
         dues("fault of a club without", x::fault, 0, 0, NONE);
         read(x, "member");
         dues("fault of the latest one", x::fault, 0, 2, 6);
-        read(x, ";");
-        dues("fault at place 0", x::fault, 0, 2, 0);
-        x.club(0);
-        dues("fault of an empty text", x::fault, 0, 0, NONE);
 
         says("NONE for others.");
         x = made(Rows::rich);

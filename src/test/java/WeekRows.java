@@ -46,10 +46,12 @@ final class WeekRows extends Rows {
 
     private static void howManyWeeks() {
         promise(0);
-        says("WEEK is 0 at first, 60 at most.");
+        says("WEEK is 0 at first,");
         NobodysTuesday x = new NobodysTuesday();
         due("WEEK of a new object", x.count(5), 0);
         due("WEEK of a new club", club("member always;").count(5), 0);
+
+        says("60 at most.");
         for (int i = 0; i < 60; i++) {
             due("week " + i, x.week(i), 0);
             due("WEEK", x.count(5), i + 1);
@@ -220,19 +222,21 @@ final class WeekRows extends Rows {
     }
 
     private static void hatsAtTheCorner() {
-        says("HATS are those of MEMBERS with lesser numbers who COME this WEEK, or have umbrella"
-                + " (who don't come, too: theirs stands at the corner).");
+        says("HATS are those of MEMBERS with lesser numbers who COME this WEEK,");
         goes("member sees 0;member always;member sees 2;member sees 2;", 7, 7);
-        goes("member sees 0;member always umbrella;", 3);
-        goes("member never umbrella;member sees 1;", 2);
         goes("member never;member sees 0;", 2);
-        goes("member always umbrella;member sees 1;", 3);
-        goes("member sees 1 umbrella;member sees 1;", 2);
-        goes("member never umbrella;member always umbrella;member sees 2;member hats 2;", 2 + 4);
         goes("member other;member hats 1;member hats 2;member sees 1;member sees 0;", 1 + 4, 2 + 4, 1 + 4);
         // Of this WEEK, not of the last one.
         due("all came LAST WEEK", weeks("member never;member never;member sees 0;", 7).next(), 4);
         due("nobody came LAST WEEK", weeks("member always;member always;member sees 2;", 0).next(), 7);
+
+        says("or have umbrella (who don't come, too: theirs stands at the corner).");
+        goes("member never umbrella;member sees 1;", 2);
+        goes("member always umbrella;member sees 1;", 3);
+        goes("member sees 1 umbrella;member sees 1;", 2);
+        goes("member never umbrella;member always umbrella;member sees 2;member hats 2;", 2 + 4);
+        // His own, and those of MEMBERS with greater numbers, are not seen by him.
+        goes("member sees 0 umbrella;member always umbrella;", 3);
         due("eleven umbrellas", club("member never umbrella;".repeat(11) + "member sees 11;").next(), 2048);
     }
 
@@ -266,13 +270,15 @@ final class WeekRows extends Rows {
     }
 
     private static void fogByHats() {
-        says("for each HAT that there is (none of who stays without an umbrella) and that a MEMBER with hats or sees might see,"
-                + " by numbers, DRAW modulo 100: below fog it isn't seen.");
+        says("DRAW modulo 100: below fog it isn't seen.");
         foggy("fog 38;member always;member sees 1;", 1, 3);
         foggy("fog 39;member always;member sees 1;", 1, 1);
         foggy("fog 99;member always;member sees 1;", 116, 3);
         foggy("fog 100;member always;member sees 1;", 116, 1);
+        foggy("fog 0;member always;member sees 1;", 0, 3);
         foggy("fog 1;member always;member sees 1;", 0, 1);
+
+        says("for each HAT that there is (none of who stays without an umbrella)");
         // Who stays without an umbrella has no DRAW: 38 is of the one behind him.
         foggy("fog 38;member never;member always;member sees 1;", 1, 2 + 4);
         foggy("fog 38;member hats 0;member always;member sees 1;", 1, 2 + 4);
@@ -281,7 +287,9 @@ final class WeekRows extends Rows {
         foggy("fog 27;member never umbrella;member always;member sees 1;", 1, 2 + 4);
         // Who comes and has an umbrella has one HAT: 38, 26, not 13.
         foggy("fog 13;member always umbrella;member always;member sees 2;", 1, 7);
-        // For those who see no HATS, or see none ahead, there is no DRAW.
+
+        says("and that a MEMBER with hats or sees might see, by numbers,");
+        // For those who look at no HATS, or have none ahead, there is no DRAW.
         foggy("fog 38;member always;member always;member sees 1;", 1, 7);
         foggy("fog 38;member hats 1;member under 1;member sees 1;", 1, 7);
         foggy("fog 38;member sees 0;member sees 1;", 1, 3);
@@ -466,10 +474,16 @@ final class WeekRows extends Rows {
         due("week", x.week(0), 3);
         nothingIsLeft();
 
-        says("IllegalArgumentException: n is below 0 or above WEEK.");
-        due("WEEK", made(Rows::rich).back(0), 4);
+        says("IllegalArgumentException: n is below 0");
+        due("back(0)", made(Rows::rich).back(0), 4);
+        for (int n : new int[] {-1, -2, LEAST}) {
+            refused("back(" + n + ")", ARGUMENT, y -> y.back(n));
+            refused("back(" + n + ") at WEEK 0", ARGUMENT, NEW, y -> y.back(n));
+        }
+
+        says("or above WEEK.");
         due("back(4)", made(Rows::rich).back(4), 0);
-        for (int n : new int[] {-1, LEAST, 5, 61, MOST}) {
+        for (int n : new int[] {5, 60, 61, MOST}) {
             refused("back(" + n + ")", ARGUMENT, y -> y.back(n));
         }
         refused("back(1) at WEEK 0", ARGUMENT, NEW, y -> y.back(1));
@@ -627,7 +641,7 @@ final class WeekRows extends Rows {
     private static void judging() {
         promise(16);
         says("Numbers of a TRAY are SETS of the next WEEKS: the first place that is not as it would go by without fog"
-                + " (what 0; NONE: all are), the SET it would be (1; NONE).");
+                + " (what 0;");
         String text = "fog 100;member other;member every 2;member hats 1;";
         NobodysTuesday x = club(text);
         fill(x, 2, 0, 3, 4, 3, 4);
@@ -639,8 +653,17 @@ final class WeekRows extends Rows {
         x.write(2, 0, 0);
         judged(x, 2, 0, 3);
         due("nothing went by", x.count(5), 0);
+        sixtyPlaces();
+        beyondWeekSixty();
+
+        says("NONE: all are), the SET it would be (1; NONE).");
+        fill(x, 2, 0, 3, 4, 3, 4, 3);
+        judged(x, 2, NONE, NONE);
+        fill(x, 2, 0, 3, 4, 3, 4, 4);
+        judged(x, 2, 4, 3);
         x.tray(1, 3, 0);
         judged(x, 1, NONE, NONE);
+        // Numbers that are no SETS.
         fill(x, 3, 3, (1L << 32) + 3);
         judged(x, 3, 0, 3);
         fill(x, 3, 3, -1);
@@ -653,8 +676,6 @@ final class WeekRows extends Rows {
         x = new NobodysTuesday();
         fill(x, 0, 0, 0, 0, 1);
         judged(x, 0, 2, 0);
-        sixtyPlaces();
-        beyondWeekSixty();
 
         says("NoSuchElementException: no such TRAY (as below);");
         for (int tray : new int[] {-1, 4, LEAST, MOST}) {
