@@ -31,20 +31,42 @@ final class AheadRows extends Rows {
 
     private static void aheadTerm() {
         promise(0);
-        says("AHEAD for n WEEKS (1 to 60, without fog, beyond WEEK 60, too): as they would go by.");
+        says("AHEAD for n WEEKS (1 to 60,");
+        due("ahead(1, 100)", club("member always;").ahead(1, 100), 1);
+        due("ahead(60, 0)", club("member always;").ahead(60, 0), 60);
+        refused("ahead(0, 0)", ARGUMENT, y -> y.ahead(0, 0));
+        refused("ahead(61, 0)", ARGUMENT, y -> y.ahead(61, 0));
+        refused("worth(0, 0)", ARGUMENT, y -> y.worth(0, 0));
+        refused("worth(0, 61)", ARGUMENT, y -> y.worth(0, 61));
+        refused("bestQuota(0)", ARGUMENT, y -> y.bestQuota(0));
+        refused("bestQuota(61)", ARGUMENT, y -> y.bestQuota(61));
+
+        says("without fog,");
         NobodysTuesday x = club("fog 100;member always;member hats 1;member sees 1;");
         due("ahead(1, 100) without fog", x.ahead(1, 100), 5);
         due("ahead(60, 159) without fog", x.ahead(60, 159), 5);
         due("week in fog", x.week(7), 3);
+        due("ahead(60, 0) without fog", club("quota 2;fog 100;member always;member sees 1;").ahead(60, 0), 60);
+
+        says("beyond WEEK 60, too):");
         x = made(WeekRows::sixty);
         dues("WEEK 60 on", k -> made(WeekRows::sixty).ahead(13, 100 + k), 0, 5, 6, 4, 6, 4, 6, 4, 6, 4, 6, 4, 6, 5);
         due("WEEK 119", x.ahead(60, 159), 6);
         due("WEEK", x.count(5), 60);
-        // What is learnt of WEEKS ahead is learnt as of those that went by.
-        String learning = "quota 2;dinner 5;member every 2;member learns cost 3;";
-        int[] sets = {1, 2, 1, 2};
-        for (int k = 0; k < 4; k++) {
-            due("ahead(4, " + (100 + k) + ")", club(learning).ahead(4, 100 + k), sets[k]);
+
+        says("as they would go by.");
+        // What is learnt of WEEKS ahead is learnt as of those that went by: 2, -1, 1, ..
+        dues("ahead of 4", k -> club("quota 2;dinner 5;member every 2;member learns cost 3;").ahead(4, k), 100, 1, 2, 1, 2);
+        // 1, -3, -2, ..
+        dues("ahead of 6", k -> club("quota 2;dinner 5;member every 2;member learns cost 4;").ahead(6, k), 100, 1, 2, 1, 0, 1, 0);
+        // -4 of a WEEK that went by, then 1, -3, ..
+        dues("ahead of 3", k -> weeks("quota 2;dinner 5;member every 2;member learns cost 4;", 0).ahead(3, k), 100, 0, 1, 0);
+        String all = "quota 2;member same;member other;member under 2;member over 1;member every 3;member hats 2;member sees 3;"
+                + "member think 1;member think 2;";
+        NobodysTuesday goes = weeks(all, 5);
+        for (int k = 0; k < 20; k++) {
+            int ahead = weeks(all, 5).ahead(20, 100 + k);
+            due("WEEK " + k, goes.week(k), ahead);
         }
     }
 
@@ -62,9 +84,17 @@ final class AheadRows extends Rows {
         // 0: 1, 2, 3, 6, then 7, 6 by turns.
         ringOf(club("member other;member over 0;member over 1;"), 2, 4);
 
-        says("(NONE, if a MEMBER learns; M is the least number that N of every MEMBER with every divides; 1 without such):");
+        says("(NONE, if a MEMBER learns;");
         ringOf(club("member learns;"), NONE, NONE);
         ringOf(club("member never;".repeat(11) + "member learns cost 999;"), NONE, NONE);
+        // One of a club before does not.
+        ringOf(made(y -> {
+            read(y, "member other;member learns;");
+            read(y, "member other;member learns;");
+            read(y, "member other;");
+        }), 2, 0);
+
+        says("M is the least number that N of every MEMBER with every divides;");
         ringOf(club("member every 3;member every 4;"), 12, 0);
         ringOf(club("member every 6;member every 4;"), 12, 0);
         ringOf(club("member every 12;member every 12;"), 12, 0);
@@ -75,10 +105,20 @@ final class AheadRows extends Rows {
         // By WEEK 8 the row goes on in the midst of M, 12.
         ringOf(weeks("member every 12;member never;", 0, 0, 0, 0, 0, 0, 0, 0), 12, 0);
         ringOf(weeks("member every 12;member never;", 0, 0, 0, 0, 0, 0, 0, 2), 12, 1);
-        // N of other RULES has no share in M.
-        ringOf(club("member hats 7;member under 0;member think 0;member sees 11;"), 1, 1);
         ringOf(club("member every 5;member every 7;member every 9;"), 315, 0);
         ringOf(club("member every 5;member every 8;member every 9;"), 360, 0);
+        ringOf(club(never(11) + "member every 12;"), 12, 0);
+        // One of a club before has no share in M.
+        ringOf(made(y -> {
+            read(y, "member other;member every 12;");
+            read(y, "member other;member every 12;");
+            read(y, "member other;");
+        }), 2, 0);
+
+        says("1 without such):");
+        ringOf(club("member hats 7;member under 0;member think 0;member sees 11;"), 1, 1);
+        ringOf(club(never(12)), 1, 0);
+        ringOf(new NobodysTuesday(), 1, 0);
 
         says("it is as long as there are WEEKS between;");
         ringOf(club("member other;"), 2, 0);
@@ -97,8 +137,13 @@ final class AheadRows extends Rows {
     }
 
     private static void bestRuleTerm() {
-        says("BEST RULE of a MEMBER for n WEEKS (1 to 30): that by which his PAY of n WEEKS AHEAD were greatest, had he it from now"
-                + " on (cost, umbrella as they are);");
+        says("BEST RULE of a MEMBER for n WEEKS (1 to 30):");
+        due("bestRule(0, 1, 2)", club("quota 1;dinner 5;member never;").bestRule(0, 1, 2), 5);
+        due("bestRule(0, 30, 2)", club("quota 1;dinner 5;member never;").bestRule(0, 30, 2), 150);
+        refused("bestRule(0, 0, 2)", ARGUMENT, y -> y.bestRule(0, 0, 2));
+        refused("bestRule(0, 31, 2)", ARGUMENT, y -> y.bestRule(0, 31, 2));
+
+        says("that by which his PAY of n WEEKS AHEAD were greatest, had he it from now on (cost, umbrella as they are);");
         NobodysTuesday x = club("quota 1;dinner 5;member every 2;member never cost 2;");
         bestRuleOf(x, 1, 4, 7, 1, 6);
         due("his RULE stays", x.member(1, 0), 1);
@@ -111,6 +156,11 @@ final class AheadRows extends Rows {
         bestRuleOf(club("quota 1;dinner 5;member never cost 2 umbrella;member sees 0;"), 0, 4, 0, 0, 12);
         bestRuleOf(club("quota 2;dinner 5;member never cost 2 umbrella;member sees 1;"), 0, 4, 0, 0, 12);
         bestRuleOf(club("quota 2;dinner 5;member never cost 2;member sees 1;"), 0, 4, 0, 0, 12);
+
+        // By learning he stays in WEEK 1, then comes: 4, -1, 4.
+        bestRuleOf(weeks("quota 2;dinner 5;member under 1;member under 2;member never cost 1;", 4), 2, 4, 10, 0, 7);
+        // As one thought of him: 3, -2.
+        bestRuleOf(weeks("quota 2;dinner 5;member never cost 2;member other;member every 3;", 5), 0, 4, 9, 1, 1);
 
         says("of like ones the first by RULES (0 to 10), then by N.");
         bestRuleOf(club("quota 1;dinner 5;member never cost 2;"), 0, 3, 0, 0, 9);
@@ -155,11 +205,13 @@ final class AheadRows extends Rows {
         }
         leaves("ahead(60, 0)", 0, Rows::rich, y -> y.ahead(60, 0) * 0);
 
-        says("IllegalArgumentException: n, another what (100 to 99 + n).");
+        says("IllegalArgumentException: n,");
         for (int n : new int[] {0, -1, 61, LEAST, MOST}) {
             refused("ahead(" + n + ", 0)", ARGUMENT, y -> y.ahead(n, 0));
             refused("ahead(" + n + ", 100)", ARGUMENT, y -> y.ahead(n, 100));
         }
+
+        says("another what (100 to 99 + n).");
         for (int what : new int[] {-1, 3, 4, 99, 102, 103, LEAST, MOST}) {
             refused("ahead(2, " + what + ")", ARGUMENT, y -> y.ahead(2, what));
         }
@@ -194,6 +246,7 @@ final class AheadRows extends Rows {
                 + " it was).");
         NobodysTuesday x = club("quota 1;member never umbrella;member sees 1;");
         due("without his umbrella", x.worth(0, 5), 5);
+        due("without his umbrella", club("quota 1;member never;member never umbrella;member sees 1;").worth(1, 5), 5);
         due("worth(1, 60)", x.worth(1, 60), 60);
         due("worth(1, 1)", x.worth(1, 1), 1);
         due("who never comes", club("quota 1;member never;member always;").worth(0, 9), 0);
@@ -230,6 +283,7 @@ final class AheadRows extends Rows {
         due("3, 2, 3", x.bestQuota(3), 3);
         due("30 of 60 each", x.bestQuota(60), 2);
         due("the quota stays", x.count(1), 12);
+        due("1, 2, 1", weeks("quota 5;member always;member every 2;", 0).bestQuota(3), 1);
         due("by none it does", new NobodysTuesday().bestQuota(60), 1);
         due("by none it does", club("quota 7;" + never(12)).bestQuota(60), 1);
         due("all twelve", club("member always;".repeat(12)).bestQuota(1), 12);
@@ -266,10 +320,12 @@ final class AheadRows extends Rows {
         }
         leaves("bestRule(2, 30, 2)", 0, Rows::rich, y -> y.bestRule(2, 30, 2) * 0);
 
-        says("IllegalArgumentException: n, another what.");
+        says("IllegalArgumentException: n,");
         for (int n : new int[] {0, -1, 31, 60, LEAST, MOST}) {
             refused("bestRule(0, " + n + ", 0)", ARGUMENT, y -> y.bestRule(0, n, 0));
         }
+
+        says("another what.");
         for (int what : new int[] {-1, 3, LEAST, MOST}) {
             refused("bestRule(0, 1, " + what + ")", ARGUMENT, y -> y.bestRule(0, 1, what));
             refused("bestRule(3, 30, " + what + ")", ARGUMENT, y -> y.bestRule(3, 30, what));

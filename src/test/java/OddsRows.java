@@ -14,9 +14,19 @@ final class OddsRows extends Rows {
 
     private static void terms() {
         promise(0);
-        says("ODDS for a of b (b 1 to 20, a 0 to b): each MEMBER COMES with the chance a / b, each by himself: ways of b to the"
-                + " number of MEMBERS in which just k COME.");
+        says("ODDS for a of b (b 1 to 20, a 0 to b):");
         NobodysTuesday x = club(never(4));
+        due("odds(0, 1, 0)", x.odds(0, 1, 0), 1);
+        due("odds(1, 1, 4)", x.odds(1, 1, 4), 1);
+        due("odds(0, 20, 0)", x.odds(0, 20, 0), 160000);
+        due("odds(20, 20, 4)", x.odds(20, 20, 4), 160000);
+        refused("odds(0, 0, 0)", ARGUMENT, y -> y.odds(0, 0, 0));
+        refused("odds(0, 21, 0)", ARGUMENT, y -> y.odds(0, 21, 0));
+        refused("odds(-1, 20, 0)", ARGUMENT, y -> y.odds(-1, 20, 0));
+        refused("odds(21, 20, 0)", ARGUMENT, y -> y.odds(21, 20, 0));
+        refused("odds(2, 1, 0)", ARGUMENT, y -> y.odds(2, 1, 0));
+
+        says("each MEMBER COMES with the chance a / b, each by himself: ways of b to the number of MEMBERS in which just k COME.");
         dues("odds 1 of 3", k -> x.odds(1, 3, k), 0, 16, 32, 24, 8, 1);
         dues("odds 2 of 3", k -> x.odds(2, 3, k), 0, 1, 8, 24, 32, 16);
         dues("odds 0 of 1", k -> x.odds(0, 1, k), 0, 1, 0, 0, 0, 0);
@@ -31,7 +41,15 @@ final class OddsRows extends Rows {
         due("no ways at all", club("quota 3;" + never(2)).bestOdds(20), 0);
         due("quota is all", club("quota 3;" + never(3)).bestOdds(20), 20);
 
-        says("CHANCES in a TRAY (as many numbers as MEMBERS, each 0 to b): MEMBER i COMES with number i of b.");
+        says("CHANCES in a TRAY (as many numbers as MEMBERS, each 0 to b):");
+        due("0s", made(filled(never(3), 1, 0, 0, 0)).chances(1, 5, 0), 125);
+        due("b", made(filled(never(3), 1, 5, 5, 5)).chances(1, 5, 3), 125);
+        refused("b and 1", ARGUMENT, filled(never(3), 1, 5, 6, 5), y -> y.chances(1, 5, 3));
+        refused("less than 0", ARGUMENT, filled(never(3), 1, 5, 5, -1), y -> y.chances(1, 5, 3));
+        refused("one number fewer", ARGUMENT, filled(never(3), 1, 5, 5), y -> y.chances(1, 5, 2));
+        refused("one number more", ARGUMENT, filled(never(3), 1, 5, 5, 5, 0), y -> y.chances(1, 5, 3));
+
+        says("MEMBER i COMES with number i of b.");
         NobodysTuesday three = club(never(3));
         fill(three, 2, 0, 1, 2, 0);
         // 1 / 3, 2 / 3, never: both stay by 2 x 1 x 3 ways, and so on.
@@ -58,15 +76,17 @@ final class OddsRows extends Rows {
         due("one", club(never(1)).odds(3, 7, 1), 3);
         due("one", club(never(1)).odds(3, 7, 0), 4);
 
-        says("IllegalArgumentException: a, b.");
-        for (int b : new int[] {0, -1, 21, LEAST, MOST}) {
-            refused("odds(0, " + b + ", 0)", ARGUMENT, y -> y.odds(0, b, 0));
-            refused("odds(1, " + b + ", 0)", ARGUMENT, y -> y.odds(1, b, 0));
-        }
+        says("IllegalArgumentException: a,");
         for (int a : new int[] {-1, 3, 4, LEAST, MOST}) {
             refused("odds(" + a + ", 2, 0)", ARGUMENT, y -> y.odds(a, 2, 0));
             // Other k's 0 is for odds that there are.
             refused("odds(" + a + ", 2, 9)", ARGUMENT, y -> y.odds(a, 2, 9));
+        }
+
+        says("IllegalArgumentException: a, b.");
+        for (int b : new int[] {0, -1, 21, LEAST, MOST}) {
+            refused("odds(0, " + b + ", 0)", ARGUMENT, y -> y.odds(0, b, 0));
+            refused("odds(1, " + b + ", 0)", ARGUMENT, y -> y.odds(1, b, 0));
         }
         refused("odds(2, 1, 0)", ARGUMENT, y -> y.odds(2, 1, 0));
         refused("odds(21, 20, 0)", ARGUMENT, y -> y.odds(21, 20, 0));
@@ -150,21 +170,35 @@ final class OddsRows extends Rows {
             refused("chances(" + tray + ", 21, 0)", STATE, y -> y.chances(tray, 21, 0));
         }
 
-        says("IllegalArgumentException: b, not as many numbers, one isn't 0 to b.");
+        says("IllegalArgumentException: b,");
         for (int b : new int[] {0, -1, 21, LEAST, MOST}) {
             refused("chances(0, " + b + ", 0)", ARGUMENT, y -> y.chances(0, b, 0));
             refused("chances(1, " + b + ", 0) of 0s", ARGUMENT, filled(three, 1, 0, 0, 0), y -> y.chances(1, b, 0));
         }
-        long[][] numbers = {{}, {1, 2}, {1, 2, 0, 0}, {4, 0, 0}, {0, 0, 4}, {0, -1, 0}, {0, (1L << 32) + 1, 0},
-                {0, 0, Long.MIN_VALUE}, {Long.MAX_VALUE, 0, 0}};
-        for (long[] row : numbers) {
-            refused("chances(1, 3, 0) of " + row.length + " numbers", ARGUMENT, filled(three, 1, row), y -> y.chances(1, 3, 0));
-            refused("chances(1, 3, 9) of " + row.length + " numbers", ARGUMENT, filled(three, 1, row), y -> y.chances(1, 3, 9));
-        }
+
+        says("not as many numbers,");
+        refusedOf(new long[][] {{}, {1}, {1, 2}, {1, 2, 0, 0}, {0, 0, 0, 0, 0}});
+        refused("chances(0, 1, 0) of nobody", ARGUMENT, filled("", 0, 0), y -> y.chances(0, 1, 0));
+        refused("chances(0, 1, 0) of 60 for twelve", ARGUMENT, y -> {
+            read(y, never(12));
+            y.tray(0, 0, 60);
+        }, y -> y.chances(0, 1, 0));
+
+        says("one isn't 0 to b.");
+        refusedOf(new long[][] {{4, 0, 0}, {0, 0, 4}, {0, -1, 0}, {0, (1L << 32) + 1, 0}, {0, 0, Long.MIN_VALUE},
+                {Long.MAX_VALUE, 0, 0}});
         due("each of 3 may be 3", made(filled(three, 1, 3, 0, 3)).chances(1, 3, 2), 27);
         due("each of 20 may be 20", made(filled(three, 1, 20, 0, 20)).chances(1, 20, 2), 8000);
         refused("chances(1, 19, 2)", ARGUMENT, filled(three, 1, 20, 0, 20), y -> y.chances(1, 19, 2));
-        refused("chances(0, 1, 0) of nobody", ARGUMENT, filled("", 0, 0), y -> y.chances(0, 1, 0));
+    }
+
+    /** TRAYS that are no CHANCES of 3 for three MEMBERS; for a k that there isn't, too. */
+    private static void refusedOf(long[][] numbers) {
+        for (long[] row : numbers) {
+            String call = "of " + java.util.Arrays.toString(row);
+            refused("chances(1, 3, 0) " + call, ARGUMENT, filled(never(3), 1, row), y -> y.chances(1, 3, 0));
+            refused("chances(1, 3, 9) " + call, ARGUMENT, filled(never(3), 1, row), y -> y.chances(1, 3, 9));
+        }
     }
 
     private static void hope() {
@@ -200,17 +234,21 @@ final class OddsRows extends Rows {
         }
         refused("hope(0, 1, 2, 0) of nobody", ELEMENT, NEW, y -> y.hope(0, 1, 2, 0));
 
-        says("IllegalArgumentException: a, b, another what.");
+        says("IllegalArgumentException: a,");
         for (int a : new int[] {-1, 3, LEAST, MOST}) {
             refused("hope(0, " + a + ", 2, 0)", ARGUMENT, y -> y.hope(0, a, 2, 0));
         }
+        refused("hope(0, 21, 20, 0)", ARGUMENT, y -> y.hope(0, 21, 20, 0));
+
+        says("IllegalArgumentException: a, b,");
         for (int b : new int[] {0, -1, 21, LEAST, MOST}) {
             refused("hope(0, 0, " + b + ", 0)", ARGUMENT, y -> y.hope(0, 0, b, 0));
         }
+
+        says("another what.");
         for (int what : new int[] {-1, 2, LEAST, MOST}) {
             refused("hope(3, 1, 2, " + what + ")", ARGUMENT, y -> y.hope(3, 1, 2, what));
         }
-        refused("hope(0, 21, 20, 0)", ARGUMENT, y -> y.hope(0, 21, 20, 0));
         due("hope(3, 20, 20, 0)", made(Rows::rich).hope(3, 20, 20, 0), -3);
         due("hope(3, 0, 1, 1)", made(Rows::rich).hope(3, 0, 1, 1), 0);
     }

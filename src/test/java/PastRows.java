@@ -219,12 +219,14 @@ final class PastRows extends Rows {
             due("doubts(" + m + ", 0)", others.doubts(m, 0), NONE);
         }
 
-        says("NoSuchElementException: no such MEMBER, WEEK.");
+        says("NoSuchElementException: no such MEMBER,");
         Deed one = has(HATS, 1);
         for (int m : new int[] {-1, 6, 12, LEAST, MOST}) {
             refused("doubts(" + m + ", 0)", ELEMENT, one, y -> y.doubts(m, 0));
             refused("doubts(" + m + ", 1)", ELEMENT, one, y -> y.doubts(m, 1));
         }
+
+        says("NoSuchElementException: no such MEMBER, WEEK.");
         for (int week : new int[] {-1, 1, 60, LEAST, MOST}) {
             refused("doubts(3, " + week + ")", ELEMENT, one, y -> y.doubts(3, week));
             // Of one with neither hats nor sees, too, where else NONE is answered.

@@ -167,8 +167,14 @@ final class RestRows extends Rows {
         due("nobody, or both there", x.two(2, 3, -1), 2);
         due("nobody", x.two(2, 3, 0), 0);
         due("both there", x.two(2, 3, 1), 2 + 2 * 3);
-        due("by a dinner of no more than it costs, nobody", x.two(2, 1, -1), 1);
+        due("by a dinner of less than it costs, nobody", x.two(2, 1, -1), 1);
         due("whose GAIN is 0 goes or stays", x.two(2, 2, -1), 2);
+        // 1 coin is enough to come, or to go there.
+        due("for 1 coin here", club("quota 1;dinner 3;member never cost 2;").two(1, 2, -1), 1);
+        due("for 1 coin here", club("quota 1;dinner 3;member never cost 2;").two(1, 2, 0), 1);
+        due("for 1 coin there", club("quota 1;dinner 2;member never cost 2;").two(1, 3, -1), 1);
+        due("for 1 coin there", club("quota 1;dinner 2;member never cost 2;").two(1, 3, 0), 2);
+        due("for none anywhere", club("quota 1;dinner 2;member never cost 2;").two(1, 2, -1), 3);
         // Without costs only those with nobody here are not at REST.
         due("all but 256", club(never(8)).two(12, 0, -1), 6561 - 256);
 
@@ -363,6 +369,10 @@ final class RestRows extends Rows {
         fill(x, 0, 0, 11, 10, 9, 8, 7, 6, 5, 4, 3, 2, 1, 0);
         due("turnsBy(0, 0) of twelve", x.turnsBy(0, 0), 3072);
         due("turnsBy(0, 1) of twelve", x.turnsBy(0, 1), 11);
+        x = club("quota 12;member never cost 10;" + never(11));
+        fill(x, 0, 0, 11, 10, 9, 8, 7, 6, 5, 4, 3, 2, 1, 0);
+        due("turnsBy(0, 0), if one of twelve would not", x.turnsBy(0, 0), 0);
+        due("turnsBy(0, 1), if one of twelve would not", x.turnsBy(0, 1), NONE);
         x = new NobodysTuesday();
         x.tray(0, 0, 0);
         due("turnsBy(0, 0) of nobody", x.turnsBy(0, 0), 0);

@@ -39,12 +39,16 @@ final class TrayRows extends Rows {
 
     private static void terms() {
         promise(0);
-        says("TRAYS 0 to 3 are MISSING at first, or rows of 0 to 60 numbers of 8 bits (sort 0), 16 (1), 32 (2), 64 (3).");
+        says("TRAYS 0 to 3 are MISSING at first,");
         for (int i = 0; i < 4; i++) {
             int tray = i;
             refused("write(" + i + ", 0, 0)", STATE, NEW, y -> y.write(tray, 0, 0));
             refused("chances(" + i + ", 1, 0)", STATE, NEW, y -> y.chances(tray, 1, 0));
         }
+        refused("write(-1, 0, 0)", ELEMENT, NEW, y -> y.write(-1, 0, 0));
+        refused("write(4, 0, 0)", ELEMENT, NEW, y -> y.write(4, 0, 0));
+
+        says("or rows of 0 to 60 numbers");
         NobodysTuesday x = new NobodysTuesday();
         x.tray(0, 0, 60);
         x.tray(1, 1, 59);
@@ -55,6 +59,10 @@ final class TrayRows extends Rows {
         places(x, 1, 59);
         places(x, 2, 1);
         places(x, 3, 0);
+        refused("tray(0, 0, -1)", ARGUMENT, y -> tray(y, 0, 0, -1));
+        refused("tray(0, 0, 61)", ARGUMENT, y -> tray(y, 0, 0, 61));
+
+        says("of 8 bits (sort 0), 16 (1), 32 (2), 64 (3).");
         // Each sort's last numbers and the first ones that are cut, with their sign.
         int[] bits = {8, 16, 32, 64};
         for (int sort = 0; sort < 4; sort++) {
@@ -67,11 +75,23 @@ final class TrayRows extends Rows {
             due("one below " + (-most - 1), x.write(2, 0, -most - 2), most);
         }
 
-        says("IMAGES 0 to 2: all but the tape, the FAULT and TRAYS, as it was (none at first).");
+        refused("tray(0, -1, 1)", ARGUMENT, y -> tray(y, 0, -1, 1));
+        refused("tray(0, 4, 1)", ARGUMENT, y -> tray(y, 0, 4, 1));
+
+        says("IMAGES 0 to 2:");
+        for (int i = 0; i < 3; i++) {
+            due("image(" + i + ")", image(new NobodysTuesday(), i), 0);
+        }
+        refused("image(-1)", ELEMENT, y -> image(y, -1));
+        refused("image(3)", ELEMENT, y -> image(y, 3));
+
+        says("(none at first).");
         for (int i = 0; i < 3; i++) {
             int image = i;
             refused("restore(" + i + ")", STATE, NEW, y -> restore(y, image));
         }
+
+        says("all but the tape, the FAULT and TRAYS, as it was");
         x = made(Rows::rich);
         x.image(0);
         x.club(0);
@@ -174,11 +194,13 @@ final class TrayRows extends Rows {
             refused("tray(" + tray + ", 0, 61)", ELEMENT, y -> tray(y, tray, 0, 61));
         }
 
-        says("IllegalArgumentException: no such sort, or not so many.");
+        says("IllegalArgumentException: no such sort,");
         for (int sort : new int[] {-1, 4, LEAST, MOST}) {
             refused("tray(0, " + sort + ", 2)", ARGUMENT, y -> tray(y, 0, sort, 2));
             refused("tray(1, " + sort + ", 2)", ARGUMENT, y -> tray(y, 1, sort, 2));
         }
+
+        says("or not so many.");
         for (int many : new int[] {-1, 61, LEAST, MOST}) {
             refused("tray(0, 0, " + many + ")", ARGUMENT, y -> tray(y, 0, 0, many));
             refused("tray(3, 3, " + many + ")", ARGUMENT, y -> tray(y, 3, 3, many));
@@ -410,6 +432,7 @@ final class TrayRows extends Rows {
         x.restore(2);
         x.restore(1);
         due("the IMAGE of the other", x.count(4), 3);
+        weighedAsItWas();
 
         says("NoSuchElementException: no such one;");
         for (int i : new int[] {-1, 3, LEAST, MOST}) {
@@ -421,6 +444,20 @@ final class TrayRows extends Rows {
         refused("restore(2)", STATE, y -> restore(y, 2));
         due("restore(1)", restore(made(Rows::rich), 1), 0);
         refused("restore(1) behind image(0)", STATE, y -> y.image(0), y -> restore(y, 1));
+    }
+
+    /** Who has by coming what, is as it was, too. */
+    private static void weighedAsItWas() {
+        NobodysTuesday x = club("quota 2;dinner 5;member never cost 1;member never cost 9;member never;");
+        x.image(0);
+        read(x, "quota 2;dinner 5;member never;member never cost 5;member never cost 7;");
+        x.image(1);
+        for (int set = 0; set < 8; set++) {
+            x.restore(0);
+            due("rests(" + set + ") of IMAGE 0", x.rests(set), set == 0 || set == 5);
+            x.restore(1);
+            due("rests(" + set + ") of IMAGE 1", x.rests(set), set == 0 || set == 1 || set == 3);
+        }
     }
 
     private static void counting() {
