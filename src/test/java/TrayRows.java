@@ -448,15 +448,19 @@ final class TrayRows extends Rows {
 
     /** Who has by coming what, is as it was, too. */
     private static void weighedAsItWas() {
-        NobodysTuesday x = club("quota 2;dinner 5;member never cost 1;member never cost 9;member never;");
+        NobodysTuesday x = club("quota 3;dinner 5;member never cost 1;member never cost 9;member never;");
         x.image(0);
-        read(x, "quota 2;dinner 5;member never;member never cost 5;member never cost 7;");
+        read(x, "quota 3;dinner 5;member never;member never cost 5;member never cost 7;");
         x.image(1);
         for (int set = 0; set < 8; set++) {
             x.restore(0);
-            due("rests(" + set + ") of IMAGE 0", x.rests(set), set == 0 || set == 5);
+            due("rests(" + set + ") of IMAGE 0", x.rests(set), set == 0 || set == 4);
+            x.quota(2);
+            due("rests(" + set + ") of IMAGE 0 by quota 2", x.rests(set), set == 0 || set == 5);
             x.restore(1);
-            due("rests(" + set + ") of IMAGE 1", x.rests(set), set == 0 || set == 1 || set == 3);
+            due("rests(" + set + ") of IMAGE 1", x.rests(set), set == 0 || set == 1);
+            x.quota(2);
+            due("rests(" + set + ") of IMAGE 1 by quota 2", x.rests(set), set == 0 || set == 1 || set == 3);
         }
     }
 
