@@ -1,3 +1,5 @@
+import java.util.Arrays;
+
 /** ODDS, BEST ODDS, CHANCES (terms), and promises 32 to 35. */
 final class OddsRows extends Rows {
     private static final String FOUR =
@@ -195,7 +197,7 @@ final class OddsRows extends Rows {
     /** TRAYS that are no CHANCES of 3 for three MEMBERS; for a k that there isn't, too. */
     private static void refusedOf(long[][] numbers) {
         for (long[] row : numbers) {
-            String call = "of " + java.util.Arrays.toString(row);
+            String call = "of " + Arrays.toString(row);
             refused("chances(1, 3, 0) " + call, ARGUMENT, filled(never(3), 1, row), y -> y.chances(1, 3, 0));
             refused("chances(1, 3, 9) " + call, ARGUMENT, filled(never(3), 1, row), y -> y.chances(1, 3, 9));
         }

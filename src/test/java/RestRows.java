@@ -42,10 +42,6 @@ final class RestRows extends Rows {
         notThrown(call + "(4095) of twelve", club(never(12)), y -> asked.on(y, 4095));
     }
 
-    private static void notThrown(String call, NobodysTuesday x, Call asked) {
-        due(call + " throws", answer(x, asked).startsWith("throws"), false);
-    }
-
     private static void anotherWhat(String call, int least, int most, OfSet asked) {
         for (int what : new int[] {least - 1, most + 1, LEAST, MOST}) {
             refused(call + " of what " + what, ARGUMENT, y -> asked.on(y, what));

@@ -119,6 +119,23 @@ abstract class Rows {
         }
     }
 
+    /** A call throws just this, in the midst of a run on one object. */
+    static void thrown(String call, Class<?> due, NobodysTuesday x, Call asked) {
+        row();
+        String got = answer(x, asked);
+        if (!got.equals("throws " + due.getName())) {
+            fail(call + " answered " + got + ", due is throws " + due.getName());
+        }
+    }
+
+    static void notThrown(String call, NobodysTuesday x, Call asked) {
+        row();
+        String got = answer(x, asked);
+        if (got.startsWith("throws")) {
+            fail(call + " " + got);
+        }
+    }
+
     /** A call throws just this, and changes nothing of an object with all things in it. */
     static void refused(String call, Class<?> due, Call refusal) {
         refused(call, due, Rows::rich, refusal);

@@ -554,14 +554,14 @@ final class TextRows extends Rows {
 
         says("Of the latest club() that threw nothing,");
         read(x, "quota 13;");
-        answer(x, y -> y.club(5));
-        answer(x, y -> y.club(-1));
+        thrown("club(5)", ARGUMENT, x, y -> y.club(5));
+        thrown("club(-1)", ARGUMENT, x, y -> y.club(-1));
         dues("fault behind a club() that threw", x::fault, 0, 3, 6);
         lay(x, "quota 12;");
         dues("fault behind feed()", x::fault, 0, 3, 6);
         x.club(9);
         dues("fault of a club without", x::fault, 0, 0, NONE);
-        answer(x, y -> y.club(5));
+        thrown("club(5)", ARGUMENT, x, y -> y.club(5));
         dues("fault of a club without", x::fault, 0, 0, NONE);
         read(x, "member");
         dues("fault of the latest one", x::fault, 0, 2, 6);

@@ -32,7 +32,7 @@ final class TrayRows extends Rows {
         for (int place = 0; place < many; place++) {
             due("write to place " + place, x.write(tray, place, 1), 1);
         }
-        due("write to place " + many, answer(x, y -> y.write(tray, many, 1)).startsWith("throws"), true);
+        thrown("write to place " + many, INDEX, x, y -> y.write(tray, many, 1));
     }
 
     // ---- terms
@@ -137,30 +137,91 @@ final class TrayRows extends Rows {
     /** Each call that may throw, all of them on one object. */
     private static void nothingChanges() {
         says("A call that throws changes nothing.");
-        Call[] refusals = {y -> y.club(61), y -> y.club(-1), y -> y.member(4, 0), y -> y.member(0, 7), y -> y.quota(0),
-                y -> y.quota(13), y -> y.told(16), y -> y.back(5), y -> y.back(-1), y -> y.came(4), y -> y.met(4),
-                y -> y.hats(4), y -> y.thought(4, 0), y -> y.thought(0, 7), y -> y.judge(4, 0), y -> y.judge(1, 0),
-                y -> y.judge(0, 2), y -> y.gain(0, 4), y -> y.gain(16, 0), y -> y.rests(16), y -> y.strong(16),
-                y -> y.turnsBy(4, 0), y -> y.turnsBy(1, 0), y -> y.turnsBy(2, 0), y -> y.turnsBy(0, 2), y -> y.two(0, 0, 0),
-                y -> y.two(1, 1000, 0), y -> y.pay(16), y -> y.pivots(16), y -> y.replies(16, 0), y -> y.replies(0, 2),
-                y -> y.bribe(16), y -> y.leastBribe(2), y -> y.contract(2), y -> y.odds(2, 1, 0), y -> y.odds(0, 21, 0),
-                y -> y.bestOdds(21), y -> y.chances(4, 1, 0), y -> y.chances(1, 1, 0), y -> y.chances(0, 1, 0),
-                y -> y.chances(0, 21, 0), y -> y.hope(4, 0, 1, 0), y -> y.hope(0, 2, 1, 0), y -> y.hope(0, 0, 1, 2),
-                y -> y.ahead(61, 0), y -> y.ahead(60, 160), y -> y.ring(2), y -> y.worth(4, 1), y -> y.worth(0, 61),
-                y -> y.bestQuota(61), y -> y.bestRule(4, 1, 0), y -> y.bestRule(0, 31, 0), y -> y.bestRule(0, 1, 3),
-                y -> y.streak(2), y -> y.together(0, 4), y -> y.doubts(4, 0), y -> y.doubts(0, 4), y -> y.cook(4),
-                y -> y.guess(4), y -> tray(y, 4, 0, 1), y -> tray(y, 0, 4, 1), y -> tray(y, 0, 0, 61), y -> y.write(4, 0, 9),
-                y -> y.write(1, 0, 9), y -> y.write(0, 4, 9), y -> y.write(0, -1, 9), y -> y.pour(4), y -> y.pour(1),
-                y -> image(y, 3), y -> restore(y, 3), y -> restore(y, 0)};
         NobodysTuesday x = made(Rows::rich);
-        for (int i = 0; i < refusals.length; i++) {
-            due("refusal " + i + " throws", answer(x, refusals[i]).startsWith("throws"), true);
-        }
-        same("all refusals", x, made(Rows::rich));
+        refuseClubWeeksAndRest(x);
+        refuseOddsToImages(x);
+        same("all of them", x, made(Rows::rich));
         NobodysTuesday late = made(WeekRows::sixty);
-        due("week throws", answer(late, y -> y.week(1)).startsWith("throws"), true);
-        due("told throws", answer(late, y -> y.told(1)).startsWith("throws"), true);
-        same("all refusals", late, made(WeekRows::sixty));
+        thrown("week(1)", STATE, late, y -> y.week(1));
+        thrown("told(1)", STATE, late, y -> y.told(1));
+        same("both of them", late, made(WeekRows::sixty));
+    }
+
+    private static void refuseClubWeeksAndRest(NobodysTuesday x) {
+        thrown("club(61)", ARGUMENT, x, y -> y.club(61));
+        thrown("club(-1)", ARGUMENT, x, y -> y.club(-1));
+        thrown("member(4, 0)", ELEMENT, x, y -> y.member(4, 0));
+        thrown("member(0, 7)", ARGUMENT, x, y -> y.member(0, 7));
+        thrown("quota(0)", ARGUMENT, x, y -> y.quota(0));
+        thrown("quota(13)", ARGUMENT, x, y -> y.quota(13));
+        thrown("told(16)", ARGUMENT, x, y -> y.told(16));
+        thrown("back(5)", ARGUMENT, x, y -> y.back(5));
+        thrown("back(-1)", ARGUMENT, x, y -> y.back(-1));
+        thrown("came(4)", ELEMENT, x, y -> y.came(4));
+        thrown("met(4)", ELEMENT, x, y -> y.met(4));
+        thrown("hats(4)", ELEMENT, x, y -> y.hats(4));
+        thrown("thought(4, 0)", ELEMENT, x, y -> y.thought(4, 0));
+        thrown("thought(0, 7)", ARGUMENT, x, y -> y.thought(0, 7));
+        thrown("judge(4, 0)", ELEMENT, x, y -> y.judge(4, 0));
+        thrown("judge(1, 0)", STATE, x, y -> y.judge(1, 0));
+        thrown("judge(0, 2)", ARGUMENT, x, y -> y.judge(0, 2));
+        thrown("gain(0, 4)", ELEMENT, x, y -> y.gain(0, 4));
+        thrown("gain(16, 0)", ARGUMENT, x, y -> y.gain(16, 0));
+        thrown("rests(16)", ARGUMENT, x, y -> y.rests(16));
+        thrown("strong(16)", ARGUMENT, x, y -> y.strong(16));
+        thrown("turnsBy(4, 0)", ELEMENT, x, y -> y.turnsBy(4, 0));
+        thrown("turnsBy(1, 0)", STATE, x, y -> y.turnsBy(1, 0));
+        thrown("turnsBy(2, 0)", ARGUMENT, x, y -> y.turnsBy(2, 0));
+        thrown("turnsBy(0, 2)", ARGUMENT, x, y -> y.turnsBy(0, 2));
+        thrown("two(0, 0, 0)", ARGUMENT, x, y -> y.two(0, 0, 0));
+        thrown("two(1, 1000, 0)", ARGUMENT, x, y -> y.two(1, 1000, 0));
+        thrown("pay(16)", ARGUMENT, x, y -> y.pay(16));
+        thrown("pivots(16)", ARGUMENT, x, y -> y.pivots(16));
+        thrown("replies(16, 0)", ARGUMENT, x, y -> y.replies(16, 0));
+        thrown("replies(0, 2)", ARGUMENT, x, y -> y.replies(0, 2));
+        thrown("bribe(16)", ARGUMENT, x, y -> y.bribe(16));
+        thrown("leastBribe(2)", ARGUMENT, x, y -> y.leastBribe(2));
+        thrown("contract(2)", ARGUMENT, x, y -> y.contract(2));
+    }
+
+    private static void refuseOddsToImages(NobodysTuesday x) {
+        thrown("odds(2, 1, 0)", ARGUMENT, x, y -> y.odds(2, 1, 0));
+        thrown("odds(0, 21, 0)", ARGUMENT, x, y -> y.odds(0, 21, 0));
+        thrown("bestOdds(21)", ARGUMENT, x, y -> y.bestOdds(21));
+        thrown("chances(4, 1, 0)", ELEMENT, x, y -> y.chances(4, 1, 0));
+        thrown("chances(1, 1, 0)", STATE, x, y -> y.chances(1, 1, 0));
+        thrown("chances(0, 1, 0)", ARGUMENT, x, y -> y.chances(0, 1, 0));
+        thrown("chances(0, 21, 0)", ARGUMENT, x, y -> y.chances(0, 21, 0));
+        thrown("hope(4, 0, 1, 0)", ELEMENT, x, y -> y.hope(4, 0, 1, 0));
+        thrown("hope(0, 2, 1, 0)", ARGUMENT, x, y -> y.hope(0, 2, 1, 0));
+        thrown("hope(0, 0, 1, 2)", ARGUMENT, x, y -> y.hope(0, 0, 1, 2));
+        thrown("ahead(61, 0)", ARGUMENT, x, y -> y.ahead(61, 0));
+        thrown("ahead(60, 160)", ARGUMENT, x, y -> y.ahead(60, 160));
+        thrown("ring(2)", ARGUMENT, x, y -> y.ring(2));
+        thrown("worth(4, 1)", ELEMENT, x, y -> y.worth(4, 1));
+        thrown("worth(0, 61)", ARGUMENT, x, y -> y.worth(0, 61));
+        thrown("bestQuota(61)", ARGUMENT, x, y -> y.bestQuota(61));
+        thrown("bestRule(4, 1, 0)", ELEMENT, x, y -> y.bestRule(4, 1, 0));
+        thrown("bestRule(0, 31, 0)", ARGUMENT, x, y -> y.bestRule(0, 31, 0));
+        thrown("bestRule(0, 1, 3)", ARGUMENT, x, y -> y.bestRule(0, 1, 3));
+        thrown("streak(2)", ARGUMENT, x, y -> y.streak(2));
+        thrown("together(0, 4)", ELEMENT, x, y -> y.together(0, 4));
+        thrown("doubts(4, 0)", ELEMENT, x, y -> y.doubts(4, 0));
+        thrown("doubts(0, 4)", ELEMENT, x, y -> y.doubts(0, 4));
+        thrown("cook(4)", ARGUMENT, x, y -> y.cook(4));
+        thrown("guess(4)", ARGUMENT, x, y -> y.guess(4));
+        thrown("tray(4, 0, 1)", ELEMENT, x, y -> tray(y, 4, 0, 1));
+        thrown("tray(0, 4, 1)", ARGUMENT, x, y -> tray(y, 0, 4, 1));
+        thrown("tray(0, 0, 61)", ARGUMENT, x, y -> tray(y, 0, 0, 61));
+        thrown("write(4, 0, 9)", ELEMENT, x, y -> y.write(4, 0, 9));
+        thrown("write(1, 0, 9)", STATE, x, y -> y.write(1, 0, 9));
+        thrown("write(0, 4, 9)", INDEX, x, y -> y.write(0, 4, 9));
+        thrown("write(0, -1, 9)", INDEX, x, y -> y.write(0, -1, 9));
+        thrown("pour(4)", ELEMENT, x, y -> y.pour(4));
+        thrown("pour(1)", STATE, x, y -> y.pour(1));
+        thrown("image(3)", ELEMENT, x, y -> image(y, 3));
+        thrown("restore(3)", ELEMENT, x, y -> restore(y, 3));
+        thrown("restore(0)", STATE, x, y -> restore(y, 0));
     }
 
     // ---- promises 48 and 49
@@ -226,7 +287,7 @@ final class TrayRows extends Rows {
         due("chances", x.chances(0, 1, 1), 1);
         due("turnsBy", x.turnsBy(0, 1), 1);
         fill(x, 0, 1, 257, 256);
-        due("chances", answer(x, y -> y.chances(0, 20, 1)), "throws java.lang.IllegalArgumentException");
+        thrown("chances", ARGUMENT, x, y -> y.chances(0, 20, 1));
         // Each place by itself, the last one stays.
         fill(x, 3, 0, 1, 1);
         x.write(3, 0, 0);
@@ -257,10 +318,6 @@ final class TrayRows extends Rows {
             y.tray(3, 0, 60);
             y.tray(3, 0, 2);
         }, y -> y.write(3, 2, 9));
-    }
-
-    private static void due(String call, String got, String want) {
-        due(call + " answered " + got, got.equals(want), true);
     }
 
     // ---- promise 50
@@ -433,6 +490,7 @@ final class TrayRows extends Rows {
         x.restore(1);
         due("the IMAGE of the other", x.count(4), 3);
         weighedAsItWas();
+        full();
 
         says("NoSuchElementException: no such one;");
         for (int i : new int[] {-1, 3, LEAST, MOST}) {
@@ -462,6 +520,33 @@ final class TrayRows extends Rows {
             x.quota(2);
             due("rests(" + set + ") of IMAGE 1 by quota 2", x.rests(set), set == 0 || set == 1 || set == 3);
         }
+    }
+
+    /** Of twelve MEMBERS and 60 WEEKS the last ones are as they were, too. */
+    private static void full() {
+        NobodysTuesday x = club("quota 12;" + never(11) + "member think 6 cost 7 umbrella;");
+        for (int i = 0; i < 60; i++) {
+            x.told(4095 - i);
+        }
+        x.image(0);
+        read(x, "quota 12;" + "member every 5 cost 3;".repeat(12));
+        for (int i = 0; i < 60; i++) {
+            x.told(i);
+        }
+        x.image(2);
+        x.restore(0);
+        int[] last = {9, 6, 7, 1, 60, 1, 10 - 60 * 7};
+        for (int what = 0; what < 7; what++) {
+            due("member(11, " + what + ")", x.member(11, what), last[what]);
+        }
+        due("came(59)", x.came(59), 4095 - 59);
+        due("member(10, 0)", x.member(10, 0), 1);
+        x.restore(2);
+        int[] other = {6, 5, 3, 0, 0, 0, 0};
+        for (int what = 0; what < 7; what++) {
+            due("member(11, " + what + ")", x.member(11, what), other[what]);
+        }
+        due("came(59)", x.came(59), 59);
     }
 
     private static void counting() {

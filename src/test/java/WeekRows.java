@@ -56,11 +56,11 @@ final class WeekRows extends Rows {
             due("week " + i, x.week(i), 0);
             due("WEEK", x.count(5), i + 1);
         }
-        due("week 61", answer(x, y -> y.week(0)).equals("throws java.lang.IllegalStateException"), true);
+        thrown("the 61st week(0)", STATE, x, y -> y.week(0));
         due("WEEK", x.count(5), 60);
         x.back(1);
-        due("told for week 60", x.told(0), false);
-        due("told for week 61", answer(x, y -> y.told(0)).equals("throws java.lang.IllegalStateException"), true);
+        due("told(0) for the 60th", x.told(0), false);
+        thrown("told(0) for the 61st", STATE, x, y -> y.told(0));
         due("WEEK", x.count(5), 60);
 
         says("Before WEEK 0 nobody came (LAST WEEK).");
@@ -461,7 +461,7 @@ final class WeekRows extends Rows {
         due("back(0)", x.back(0), 3);
         due("back(2)", x.back(2), 1);
         due("came(0)", x.came(0), 3);
-        due("came(1)", answer(x, y -> y.came(1)).equals("throws java.util.NoSuchElementException"), true);
+        thrown("came(1)", ELEMENT, x, y -> y.came(1));
         due("LAST WEEK", x.thought(1, 0), true);
         due("LAST WEEK", x.thought(2, 0), false);
         due("told", x.told(9), true);
