@@ -155,6 +155,7 @@ final class RestRows extends Rows {
         for (int m = 0, power = 1; m < 8; m++, power *= 3) {
             due("MEMBER " + m, x.two(12, 0, m), power);
         }
+        due("one of 8, asked again", x.two(12, 0, -1), 8);
 
         says("at REST, if none has more PAY by another of the three;");
         due("one here, one there", both.two(1, 3, -1), 2);
