@@ -8,7 +8,9 @@ import java.util.ArrayList;
 import java.util.Arrays;
 import java.util.HashSet;
 import java.util.List;
+import java.util.Map;
 import java.util.Set;
+import java.util.TreeMap;
 import java.util.TreeSet;
 import java.util.regex.Matcher;
 import java.util.regex.Pattern;
@@ -20,11 +22,14 @@ public final class LanguageTest {
     private static int wrong = 0;
 
     public static void main(String[] args) throws Exception {
+        headings(Files.readString(SOURCE));
         String source = withoutComments(Files.readString(SOURCE));
         face(source);
         members();
         forbidden(source);
+        library(source);
         lengths(source);
+        depths(source);
         System.out.println(wrong == 0 ? "face and language are as told" : wrong + " breaches");
         if (wrong != 0) {
             System.exit(1);
@@ -66,6 +71,28 @@ public final class LanguageTest {
         }
         if (!is.equals(due)) {
             breach("the face is " + is + ", due is " + due);
+        }
+    }
+
+    /** What the interface says ahead of calls stands ahead of just these, in their order. */
+    private static void headings(String source) throws Exception {
+        Matcher told = Pattern.compile("Ahead of the calls (.*) the interface says: (---- .*)\\.").matcher(Files.readString(DOCUMENT));
+        int headings = 0;
+        while (told.find()) {
+            headings++;
+            int from = source.indexOf("// " + told.group(2) + "\n");
+            int to = source.indexOf("// ----", from + 1);
+            List<String> calls = new ArrayList<>();
+            if (from >= 0 && to >= 0) {
+                Matcher call = Pattern.compile("(?m)^    public \\w+ (\\w+)\\(").matcher(source.substring(from, to));
+                call.results().forEach(r -> calls.add(r.group(1)));
+            }
+            if (!calls.equals(List.of(told.group(1).replace("`", "").split(", ")))) {
+                breach(told.group(2) + " stands ahead of " + calls);
+            }
+        }
+        if (headings != 8) {
+            breach("the document has " + headings + " headings");
         }
     }
 
@@ -159,6 +186,61 @@ public final class LanguageTest {
                 breach("sign " + (int) source.charAt(i));
             }
         }
+    }
+
+    /** Of the library only what LANGUAGE.md lists and the class uses. */
+    private static void library(String source) {
+        Set<String> listed = Set.of("Math.max", "Math.min", "Math.abs", "Math.floorDiv", "Math.floorMod", "Integer.bitCount",
+                "System.arraycopy");
+        Matcher used = Pattern.compile("\\b(?:Math|Integer|Long|System|Arrays|List|String|Character|Objects)\\.\\w+").matcher(source);
+        while (used.find()) {
+            if (!listed.contains(used.group())) {
+                breach("library: " + used.group());
+            }
+        }
+        Set<String> made = new TreeSet<>();
+        Matcher making = Pattern.compile("new (\\w+)[(\\[]").matcher(source);
+        while (making.find()) {
+            made.add(making.group(1).endsWith("Exception") ? "exceptions" : making.group(1));
+        }
+        made.removeAll(Set.of("exceptions", "int", "long", "byte", "boolean"));
+        for (Class<?> own : NobodysTuesday.class.getDeclaredClasses()) {
+            made.remove(own.getSimpleName());
+        }
+        if (!made.isEmpty()) {
+            breach("made are " + made);
+        }
+    }
+
+    /** No method calls itself, by way of others either; calls go at most eight deep. Methods are told by their names. */
+    private static void depths(String source) {
+        Map<String, Set<String>> calls = new TreeMap<>();
+        Matcher heads = Pattern.compile("(?m)^( {4}| {8})(?:public |private |static |final )*\\w+(?:\\[\\])? (\\w+)\\([^;=]*?\\{$")
+                .matcher(source);
+        while (heads.find()) {
+            int end = source.indexOf("\n" + heads.group(1) + "}", heads.end());
+            Matcher names = Pattern.compile("\\b(\\w+)\\(").matcher(source.substring(heads.end(), end));
+            Set<String> called = calls.computeIfAbsent(heads.group(2), name -> new TreeSet<>());
+            names.results().forEach(r -> called.add(r.group(1)));
+        }
+        if (calls.size() < 100) {
+            breach("just " + calls.size() + " methods are found");
+        }
+        for (String name : calls.keySet()) {
+            if (depth(calls, name, 1) > 8) {
+                breach("too deep: " + name);
+            }
+        }
+    }
+
+    private static int depth(Map<String, Set<String>> calls, String name, int from) {
+        int deepest = from;
+        for (String called : calls.getOrDefault(name, Set.of())) {
+            if (from < 12 && calls.containsKey(called)) {
+                deepest = Math.max(deepest, depth(calls, called, from + 1));
+            }
+        }
+        return deepest;
     }
 
     /** Methods by their braces, at most some sixty lines each. */
